@@ -743,10 +743,8 @@ public final class TannedMen {
             }
         }
 
-        void copyFrom(Man other) {
+        void copySkin(Man other) {
             kind = other.kind;
-            inside = other.inside;
-            wounds = other.wounds;
             for (int p = 0; p < PLACES; p++) {
                 soft[p] = other.soft[p];
                 thick[p] = other.thick[p];
@@ -1038,7 +1036,7 @@ public final class TannedMen {
         int greatest;
 
         void startNow(State state, int m) {
-            man.copyFrom(state.men[m]);
+            man.copySkin(state.men[m]);
             bark = state.bark;
             months = state.months;
             clearNotes();
@@ -1176,7 +1174,6 @@ public final class TannedMen {
             stayCount = 0;
             for (int s = 0; s < MOST_SAYINGS; s++) {
                 lastPain[s] = NONE;
-                lastPart[s] = 0;
                 greatestPart[s] = 0;
             }
         }

@@ -116,6 +116,14 @@ public final class HeardTest {
         CHECK.due("6 to 10", x.stays(0, 1), 6);
         CHECK.due("6 to 10", x.stays(0, 2), 10);
         CHECK.due("parted by place 2", x.ask(0), 0);
+        TannedMen last = Check.told("t1 9;m2 0,0,0,0,0;s3 60;s4 60;");
+        last.hear(0, 0, 48);
+        spans("59, 60", last, 0, 2, 59, 60);
+        CHECK.due("59 is parted from 60 by place 4", last.ask(0), 1);
+        TannedMen first = Check.told("t1 9;m2 0,0,0,0,0;s1 60;s0 60;");
+        first.hear(0, 0, 60);
+        spans("0, 1", first, 0, 2, 0, 1);
+        CHECK.due("0 is parted from 1 by place 0", first.ask(0), 1);
     }
 
     private static void write() {

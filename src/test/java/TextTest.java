@@ -13,6 +13,7 @@ public final class TextTest {
         emptyTexts();
         faultLeavesAll();
         newYard();
+        textsOneAfterAnother();
         CHECK.end();
     }
 
@@ -218,5 +219,36 @@ public final class TextTest {
         CHECK.due("goBack(0)", x.goBack(0), TannedMen.NOT);
         CHECK.due("goBack(1)", x.goBack(1), TannedMen.NOT);
         CHECK.due("the seed stays", x.seed(1), 77);
+    }
+
+    private static void next(TannedMen x, String text, int answer, int fault) {
+        Check.feed(x, text);
+        CHECK.due("yard of '" + text + "', not the first", x.yard(), answer);
+        CHECK.due("fault of '" + text + "', not the first", x.fault(), fault);
+    }
+
+    /** Nothing of an earlier text, good or bad, is left in a later one. */
+    private static void textsOneAfterAnother() {
+        TannedMen x = new TannedMen();
+        next(x, "t1 1;x", -11, 5);
+        next(x, MAN, -11, 0);
+        next(x, "t1 19", -12, 3);
+        next(x, "t1 1", -11, 4);
+        next(x, "t1 1      ", -11, 10);
+        next(x, "t1 1", -11, 4);
+        next(x, "t2 2;" + MAN + "s4 9;", 1, TannedMen.NONE);
+        next(x, "t2 2", -11, 4);
+        next(x, "t3 3;" + MAN + MAN + "s4 9;s4 9;", 2, TannedMen.NONE);
+        next(x, "s0 1;", -11, 0);
+        CHECK.due("sayings", x.told(3), 2);
+        next(x, "t1 1;", 0, TannedMen.NONE);
+        CHECK.due("sayings", x.told(3), 0);
+        next(x, "t1 5;", 0, TannedMen.NONE);
+        CHECK.due("bark", x.told(1), 5);
+        next(x, "", 0, TannedMen.NONE);
+        CHECK.due("bark", x.told(1), 0);
+        CHECK.due("pits", x.told(0), 0);
+        next(x, " ", 0, TannedMen.NONE);
+        CHECK.due("pits", x.told(0), 0);
     }
 }

@@ -63,6 +63,8 @@ public final class ToldTest {
         CHECK.due("chosen: 0 and 1 have two each", x.told(10), 0);
         x.scrape(1, 1, 5);
         CHECK.due("chosen: 1 has three", x.told(10), 1);
+        CHECK.due("chosen: by one saying", Check.told("t1 1;m0 5,0,0,0,0;m0 4,0,0,0,0;s0 5;").told(10), 1);
+        CHECK.due("chosen: by the first, and another", Check.told("t1 1;m0 5,0,0,0,0;m0 4,0,0,0,0;s0 5;s1 5;s0 1;").told(10), 1);
         CHECK.due("chosen: no sayings", Check.told("t1 1;m0 9,0,0,0,0;").told(10), TannedMen.NONE);
         CHECK.due("chosen: no men", Check.told("t1 1;s0 5;").told(10), TannedMen.NONE);
         CHECK.due("chosen: other than best",
@@ -101,6 +103,11 @@ public final class ToldTest {
         CHECK.due("feels: 1 and more", x.man(0, 4), 1 + 2 + 8);
         x.say(1, 0);
         CHECK.due("wounds", x.man(0, 2), 2);
+        TannedMen y = Check.told("t1 9;m0 0,9,9,9,4;s0 1;s4 9;");
+        y.in(0);
+        CHECK.due("feels both", y.man(0, 4), 3);
+        y.month(1);
+        CHECK.due("feels the second alone", y.man(0, 4), 2);
         for (int what : new int[] {Integer.MIN_VALUE, -1, 5, Integer.MAX_VALUE}) {
             CHECK.due("man(0, " + what + ")", x.man(0, what), TannedMen.OUTSIDE);
         }

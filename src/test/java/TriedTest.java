@@ -8,6 +8,7 @@ public final class TriedTest {
         thickRefused();
         when();
         edge();
+        onceAtEachHurt();
         scraping();
         throughPits();
         throughNeeds();
@@ -126,6 +127,16 @@ public final class TriedTest {
         CHECK.due("a ninth", y.edge(0, 256, 0, 1), TannedMen.UNKNOWN);
     }
 
+    /** By 1 a month every hurt comes by: 1 is felt, 0 is not; 5 is borne, 6 is not. */
+    private static void onceAtEachHurt() {
+        TannedMen x = Check.told("t1 1;m0 0,0,0,0,0;s0 9;");
+        CHECK.due("borne at 5", x.when(0, 0, 0), 4);
+        CHECK.due("felt at 1", x.when(0, 0, 1), 8);
+        edges(x, 1, 1, 5, 4, 8);
+        edges(x, 0, 1, 9, 0, 8);
+        edges(x, 1, 0, 197, 4, 200);
+    }
+
     private static void scraping() {
         TannedMen x = Check.told("t1 2;m0 9,3,0,0,6;s0 3;s0 5;s1 2;s1 3;s2 5;s2 6;s4 5;");
         CHECK.due("of none", x.scraping(0, 0), 0);
@@ -198,6 +209,8 @@ public final class TriedTest {
 
     private static void throughNeeds() {
         pits(Check.told("t1 1;s0 60;"), 200, 0, 0);
+        pits(Check.told("t1 1;m0 9,9,9,9,9;s0 1;"), 5, 1, 1);
+        pits(Check.told("t1 1;m0 9,9,9,9,9;s0 1;"), 4, 0, 0);
         pits(Check.told("t1 1;m0 9,9,9,9,9;m1 1,1,1,1,1;"), 0, 2, 3);
         TannedMen x = Check.told("t1 1;m1 0,0,1,0,0;m2 0,0,0,0,0;m0 20,0,0,0,0;m3 0,0,0,0,0;s0 5;s2 5;");
         pits(x, 0, 2, 2 + 8);
