@@ -645,7 +645,7 @@ public final class TannedMen {
         }
 
         boolean hasSet(int set) {
-            return set >>> sayings == 0;
+            return (set >>> sayings) == 0;
         }
 
         int everySaying() {
@@ -679,7 +679,7 @@ public final class TannedMen {
 
         boolean bearsAll(Man man, int set) {
             for (int s = 0; s < sayings; s++) {
-                if ((set >> s & 1) == 1 && pain(man, s) > MOST_BORNE) {
+                if (((set >> s) & 1) == 1 && pain(man, s) > MOST_BORNE) {
                     return false;
                 }
             }
@@ -688,7 +688,7 @@ public final class TannedMen {
 
         boolean feelsAll(Man man, int set) {
             for (int s = 0; s < sayings; s++) {
-                if ((set >> s & 1) == 1 && pain(man, s) < 1) {
+                if (((set >> s) & 1) == 1 && pain(man, s) < 1) {
                     return false;
                 }
             }
@@ -718,7 +718,7 @@ public final class TannedMen {
         int scrapingAt(Man man, int set, int p) {
             int due = 0;
             for (int s = 0; s < sayings; s++) {
-                if ((set >> s & 1) == 1 && place[s] == p) {
+                if (((set >> s) & 1) == 1 && place[s] == p) {
                     due = Math.max(due, pain(man, s) - MOST_BORNE);
                 }
             }
@@ -1002,7 +1002,7 @@ public final class TannedMen {
         }
 
         boolean hasImage(int i) {
-            return (images >> i & 1) == 1;
+            return ((images >> i) & 1) == 1;
         }
 
         void keepImage(int i, State state, Draws draws) {
@@ -1021,8 +1021,8 @@ public final class TannedMen {
         int root;
 
         int next(int n) {
-            root = (int) (root * 1103515245L + 12345L & 0x7fffffffL);
-            return n > 0 ? root / 65536 % n : 0;
+            root = (int) ((root * 1103515245L + 12345L) & 0x7fffffffL);
+            return n > 0 ? (root / 65536) % n : 0;
         }
     }
 
@@ -1098,7 +1098,7 @@ public final class TannedMen {
         }
     }
 
-    /** Men one behind the other in the pits; a set of men is an index. */
+    /** Men one behind the other in the pits; a set of men is an index, and nobody (0) needs nothing. */
     private static final class PitQueue {
         static final int SETS = 1 << MOST_MEN;
         static final int NEVER = 1000;
@@ -1109,18 +1109,25 @@ public final class TannedMen {
 
         /** Finds for every set of men the fewest pits that take it within n months. */
         void fill(int men, int n) {
-            months[0] = 0;
-            pits[0] = 0;
-            for (int set = 1; set < 1 << men; set++) {
-                int first = Integer.numberOfTrailingZeros(set);
-                months[set] = months[set & set - 1] + (need[first] == NONE ? NEVER : need[first]);
+            for (int m = 0; m < men; m++) {
+                addMonths(m);
+            }
+            for (int set = 1; set < (1 << men); set++) {
                 pits[set] = fewestPits(set, n);
+            }
+        }
+
+        /** Every set with m as its last is one without him, for which months are known, and he. */
+        void addMonths(int m) {
+            int own = need[m] == NONE ? NEVER : need[m];
+            for (int set = 0; set < (1 << m); set++) {
+                months[set | (1 << m)] = months[set] + own;
             }
         }
 
         int fewestPits(int set, int n) {
             int fewest = NEVER;
-            for (int part = set; part > 0; part = part - 1 & set) {
+            for (int part = set; part > 0; part = (part - 1) & set) {
                 if (months[part] <= n) {
                     fewest = Math.min(fewest, pits[set ^ part] + 1);
                 }
@@ -1130,7 +1137,7 @@ public final class TannedMen {
 
         int mostWithin(int men, int free) {
             int best = 0;
-            for (int set = 1; set < 1 << men; set++) {
+            for (int set = 1; set < (1 << men); set++) {
                 if (pits[set] <= free && Integer.bitCount(set) > Integer.bitCount(best)) {
                     best = set;
                 }
