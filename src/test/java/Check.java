@@ -54,7 +54,8 @@ final class Check {
         for (int what = 0; what <= 14; what++) {
             all.append(x.told(what)).append(' ');
         }
-        for (int m = 0; m < x.told(2); m++) {
+        int men = x.told(2);
+        for (int m = 0; m < men; m++) {
             for (int what = 0; what <= 4; what++) {
                 all.append(x.man(m, what)).append(' ');
             }
@@ -74,5 +75,19 @@ final class Check {
         String ahead = seen(x);
         due(what, call.on(x), want);
         holds(what + " changes nothing", ahead.equals(seen(x)));
+    }
+
+    /** Makes the same object again and again. */
+    interface Making {
+        TannedMen make();
+    }
+
+    /** A call that leaves all that any later call can tell as it is for a twin without that call. */
+    void leavesAll(String what, Making making, Call call, int want) {
+        TannedMen x = making.make();
+        TannedMen twin = making.make();
+        due(what, call.on(x), want);
+        due(what + ": the latest fault", x.fault(), twin.fault());
+        holds(what + " changes nothing at all", Probe.whole(x).equals(Probe.whole(twin)));
     }
 }

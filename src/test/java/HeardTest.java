@@ -18,8 +18,8 @@ public final class HeardTest {
     private static void hear() {
         TannedMen x = Check.told("t1 4;m0 0,0,0,0,0;m0 0,0,0,0,0;s0 9;s1 9;");
         for (int off : FAR) {
-            CHECK.refused("man " + off, x, o -> o.hear(off, 0, 100), TannedMen.UNKNOWN);
-            CHECK.refused("saying " + off, x, o -> o.hear(0, off, 100), TannedMen.UNKNOWN);
+            CHECK.due("man " + off, x.hear(off, 0, 100), TannedMen.UNKNOWN);
+            CHECK.due("saying " + off, x.hear(0, off, 100), TannedMen.UNKNOWN);
         }
         CHECK.refused("hurt -1", x, o -> o.hear(0, 0, -1), TannedMen.OUTSIDE);
         CHECK.refused("hurt 100", x, o -> o.hear(0, 0, 100), TannedMen.OUTSIDE);
@@ -129,7 +129,7 @@ public final class HeardTest {
     private static void write() {
         TannedMen x = Check.told("t1 4;m0 0,0,0,0,0;m0 0,0,0,0,0;s0 9;s1 9;");
         for (int off : FAR) {
-            CHECK.refused("man " + off, x, o -> o.write(off, -1), TannedMen.UNKNOWN);
+            CHECK.due("man " + off, x.write(off, -1), TannedMen.UNKNOWN);
         }
         CHECK.refused("wounds -1", x, o -> o.write(0, -1), TannedMen.OUTSIDE);
         CHECK.refused("wounds 100000", x, o -> o.write(0, 100000), TannedMen.OUTSIDE);

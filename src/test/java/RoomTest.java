@@ -12,10 +12,13 @@ public final class RoomTest {
         Check check = new Check("RoomTest");
         ThreadMXBean counter = (ThreadMXBean) ManagementFactory.getThreadMXBean();
         long thread = Thread.currentThread().getId();
-        TannedMen x = Check.told(YARD);
-        everyCall(x);
-        long ahead = counter.getThreadAllocatedBytes(thread);
+        TannedMen[] rounds = new TannedMen[ROUNDS];
         for (int i = 0; i < ROUNDS; i++) {
+            rounds[i] = new TannedMen();
+        }
+        everyCall(new TannedMen());
+        long ahead = counter.getThreadAllocatedBytes(thread);
+        for (TannedMen x : rounds) {
             everyCall(x);
         }
         long made = counter.getThreadAllocatedBytes(thread) - ahead;
