@@ -451,5 +451,9 @@ public final class BoundsDrawsTest {
         CHECK.due("goBack(1)", x.goBack(1), 1);
         CHECK.due("the seed", x.seed(0), 3);
         CHECK.due("no yard", x.month(1), NOT);
+        CHECK.due("goBack(0)", x.goBack(0), NOT);
+        Check.feed(x, "t1 1;" + MAN);
+        CHECK.due("yard()", x.yard(), 1);
+        CHECK.due("an image of no yard is gone by a yard", x.goBack(1), NOT);
     }
 }

@@ -30,6 +30,8 @@ public final class BoundsHeardTest {
         askLeastOfGreatestParts();
         askOfLikeOnes();
         askTheLastSaying();
+        askWithinSixtyMonths();
+        askFromTheFirst();
         askOneBehindTheOther();
         askRefused();
         writeFifteenAtMost();
@@ -256,6 +258,34 @@ public final class BoundsHeardTest {
         TannedMen x = Check.told("t1 1;" + SMOKED.repeat(6) + "s2 60;".repeat(7) + "s0 60;");
         CHECK.due("the eighth", x.ask(5), 7);
         CHECK.due("the eighth", x.ask(0), 7);
+    }
+
+    /** 'an unknown number of MONTHS (0 .. 60)': 61, which would be parted from 60, is none of those that are told apart. */
+    private static void askWithinSixtyMonths() {
+        TannedMen last = heard("t1 1;" + POET + "s4 60;s0 60;", 0, 48);
+        stays("60 alone", last, 0, 1, 60, 60);
+        CHECK.due("60 alone", last.ask(0), NONE);
+        // by 1 a month, of hurts 60, 61: no two numbers to 60 are alike; 60 and 61 would be by the first
+        CHECK.due("1, 1", Check.told("t1 1;m0 1,0,0,0,0;s1 60;s0 60;").ask(0), 0);
+    }
+
+    /** 'from the first (MONTH 0, THICK by 0; SOFT, KIND, BARK as the text told)', in ASK, too. */
+    private static void askFromTheFirst() {
+        TannedMen soft = Check.told("t1 9;m0 30,0,0,0,0;s1 60;s0 60;");
+        CHECK.due("54, 51", soft.ask(0), 1);
+        soft.scrape(0, 0, 30);
+        CHECK.due("soft as told", soft.ask(0), 1);
+        TannedMen bark = Check.told("t1 1;m0 0,30,0,0,0;s0 60;s1 60;");
+        CHECK.due("1, 1", bark.ask(0), 0);
+        bark.bark(9);
+        CHECK.due("bark as told", bark.ask(0), 0);
+        TannedMen months = heard("t1 1;" + POET + "s4 60;s0 60;", 0, 48);
+        months.month(1);
+        CHECK.due("from month 0", months.ask(0), NONE);
+        TannedMen thick = Check.told("t1 1;m0 0,30,0,0,0;s0 60;s1 60;");
+        thick.in(0);
+        thick.month(9);
+        CHECK.due("thick by 0", thick.ask(0), 0);
     }
 
     /** Nothing of one ASK is left in the next. */
